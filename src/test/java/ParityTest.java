@@ -12,6 +12,7 @@ public final class ParityTest {
         everyBit(17);
         everyBit(18);
         allCall();
+        wrongFormat();
         twoWrongBits();
         otherFormats();
         CHECK.finish();
@@ -76,6 +77,18 @@ public final class ParityTest {
         for (int bit = 1; bit <= 56; bit++) {
             int due = bit < 6 || bit > 49 ? -1 : bit;
             CHECK.due("DF 11 bit " + bit, Bits.of(11).set(9, 32, 77).seal().turn(bit).litter().repair(DESK), due);
+        }
+    }
+
+    /** The bits of DF are never put right, though turning one of them would make the syndrome 0. */
+    private static void wrongFormat() {
+        for (int bit = 1; bit <= 5; bit++) {
+            for (int df : new int[] {11, 17, 18}) {
+                int ofBit = Bits.remainder("1" + "0".repeat((df == 11 ? 56 : 112) - bit));
+                Bits frame = Bits.of(df).set(9, 32, 77).seal(ofBit);
+                CHECK.due("DF " + df + " with a wrong bit " + bit, frame.repair(DESK), -1);
+                CHECK.due("DF " + df + " heard with a wrong bit " + bit, frame.hear(new SquitterDesk(), 0), -3);
+            }
         }
     }
 
