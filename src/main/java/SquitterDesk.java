@@ -172,7 +172,7 @@ public final class SquitterDesk {
             words[1] = b;
             words[2] = c;
             words[3] = d;
-            length = (a >>> 27) < 16 ? 56 : 112;
+            length = format() < 16 ? 56 : 112;
             turned = NONE;
         }
 
@@ -281,7 +281,7 @@ public final class SquitterDesk {
         }
 
         private int format() {
-            return number(1, 5);
+            return words[0] >>> 27;
         }
 
         private boolean isSound(int remainder) {
@@ -337,7 +337,7 @@ public final class SquitterDesk {
         }
 
         int indexOf(int address) {
-            for (int i = 0; i < size; i++) {
+            for (int i = 0; i < size && i < rows.length; i++) {
                 if (rows[i].value(Craft.ADDRESS) == address) {
                     return i;
                 }
@@ -358,7 +358,7 @@ public final class SquitterDesk {
 
         void forgetSilent(int time) {
             int kept = 0;
-            for (int i = 0; i < size; i++) {
+            for (int i = 0; i < size && i < rows.length; i++) {
                 Craft craft = rows[i];
                 if (time - craft.value(Craft.HEARD) <= LONGEST_SILENCE) {
                     rows[i] = rows[kept];

@@ -1,4 +1,4 @@
-/** Promises 9, 10, 11 and 12 as far as they are about the book: order, counts, and what is none. */
+/** Promises 9, 10, 11 and 12 as far as they are about the book: order, counts, and what is never told. */
 public final class BookTest {
     private static final Check CHECK = new Check();
     private static final int UNKNOWN = SquitterDesk.UNKNOWN;
@@ -6,7 +6,6 @@ public final class BookTest {
     public static void main(String[] args) {
         orderAndCounts();
         nothingTold();
-        noSuch();
         CHECK.finish();
     }
 
@@ -58,21 +57,5 @@ public final class BookTest {
         }
         CHECK.due("frames", desk.craft(0, 2), 1 + 64 + 7 + 4 + 3);
         CHECK.due("no signs", desk.sign(0, 0), -1);
-    }
-
-    private static void noSuch() {
-        SquitterDesk desk = new SquitterDesk();
-        Bits.squitter(9, 4, 0).message(9, 56, 0x41041).seal().hear(desk, 3);
-        for (int i : new int[] {-1, 1, 19, 20, 2147483647, -2147483648}) {
-            CHECK.due("craft " + i, desk.craft(i, 0), -1);
-            CHECK.due("sign of " + i, desk.sign(i, 0), -1);
-        }
-        for (int what : new int[] {-1, 18, 2147483647, -2147483648}) {
-            CHECK.due("what " + what, desk.craft(0, what), -1);
-        }
-        CHECK.due("sign 7", desk.sign(0, 7), 'A');
-        for (int k : new int[] {-1, 8, 2147483647, -2147483648}) {
-            CHECK.due("sign " + k, desk.sign(0, k), -1);
-        }
     }
 }

@@ -214,8 +214,12 @@ public final class FieldEdgesTest {
         altitude("111111 1 1 1 1111", UNKNOWN);
         altitude("000000 0 0 1 0000", -1000);
         altitude("000000 0 0 1 0001", -975);
+        altitude("000000 0 0 1 0010", -950);
+        altitude("000000 0 0 1 0100", -900);
+        altitude("000000 0 0 1 1000", -800);
         altitude("000000 0 1 1 0000", -600);
         altitude("000001 0 0 1 0000", -200);
+        altitude("000010 0 0 1 0000", 600);
         altitude("100000 0 0 1 0000", 24600);
         altitude("111111 0 1 1 1111", 50175);
         // h by C1 C2 C4, g being 0: the codes of 0 .. 7.
@@ -235,9 +239,17 @@ public final class FieldEdgesTest {
         altitude("101010 0 0 0 0010", UNKNOWN);
         altitude("100010 0 0 0 0010", UNKNOWN);
         altitude("100000 0 0 0 0010", -700);
-        // The greatest g, 255, is D2 alone.
+        // Each of g's bits alone, from B4 to D2: 1, 3, 7 and so on, the greatest 255; then all of them.
+        altitude("100000 0 0 0 0010", -700);
+        altitude("100000 0 0 0 1000", 300);
+        altitude("100000 0 1 0 0000", 2300);
+        altitude("100001 0 0 0 0000", 6300);
+        altitude("100100 0 0 0 0000", 14300);
+        altitude("110000 0 0 0 0000", 30300);
+        altitude("100000 0 0 0 0001", 62300);
         altitude("100000 0 0 0 0100", 126300);
         altitude("000010 0 0 0 0100", 126700);
+        altitude("010111 0 1 0 1111", 83800);
     }
 
     /** "SQUAWK: four digits as one number to ten": 0 .. 7777, and X doesn't count */

@@ -19,8 +19,6 @@ public final class FieldTest {
         fields(16, air(16), 16, -1, -1, -1, -1, 1, -1, 6, 13, 0x0F0F, -1, ADDRESS, -1, -1, -1, -1);
         fields(0, air(0).turn(6).turn(7).seal(ADDRESS), 0, -1, -1, -1, -1, 0, 0, 6, 13, 0x0F0F, -1, ADDRESS, -1, -1, -1, -1);
         refusedLeavesIt();
-        longBits();
-        shortBits();
         CHECK.finish();
     }
 
@@ -60,38 +58,5 @@ public final class FieldTest {
         CHECK.due("DF stays", desk.field(0), 4);
         CHECK.due("AC stays", desk.field(9), 0x1AB5);
         CHECK.due("bits stay", desk.bits(20, 13), 0x1AB5);
-    }
-
-    private static void longBits() {
-        SquitterDesk desk = new SquitterDesk();
-        CHECK.due("put right", desk.hear(0x8D4840D6, 0x202CC371, 0xC32CE057, 0x60990000, 0), 1);
-        CHECK.due("all of the first number", desk.bits(1, 32), 0x8D4840D6);
-        CHECK.due("over two numbers", desk.bits(17, 32), 0x40D6202C);
-        CHECK.due("the last 32", desk.bits(81, 32), 0xE0576098);
-        CHECK.due("one ahead", desk.bits(82, 32), 0);
-        CHECK.due("the last, as it was put right", desk.bits(112, 1), 0);
-        CHECK.due("the last 4", desk.bits(109, 4), 8);
-        CHECK.due("the first", desk.bits(1, 1), 1);
-        CHECK.due("behind the last", desk.bits(113, 1), 0);
-        CHECK.due("from 0", desk.bits(0, 1), 0);
-        CHECK.due("from 0", desk.bits(0, 9), 0);
-        CHECK.due("from below", desk.bits(-2147483648, 1), 0);
-        CHECK.due("from far", desk.bits(2147483647, 32), 0);
-        CHECK.due("no bits", desk.bits(1, 0), 0);
-        CHECK.due("below none", desk.bits(1, -1), 0);
-        CHECK.due("33 bits", desk.bits(1, 33), 0);
-        CHECK.due("very many", desk.bits(1, 2147483647), 0);
-        CHECK.due("very few", desk.bits(1, -2147483648), 0);
-    }
-
-    private static void shortBits() {
-        SquitterDesk desk = new SquitterDesk();
-        CHECK.due("hear", Bits.of(11).set(9, 32, ADDRESS).seal(127).litter().hear(desk, 0), 0);
-        int parity = desk.bits(33, 24);
-        CHECK.due("the parity", Bits.of(11).set(9, 32, ADDRESS).seal(127).word(1) >>> 8, parity);
-        CHECK.due("the last bit", desk.bits(56, 1), parity & 1);
-        CHECK.due("one more", desk.bits(33, 25), 0);
-        CHECK.due("behind it", desk.bits(57, 1), 0);
-        CHECK.due("the last 32", desk.bits(25, 32), (0xD6 << 24) | parity);
     }
 }

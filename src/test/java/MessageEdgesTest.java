@@ -27,7 +27,7 @@ public final class MessageEdgesTest {
         moves();
         groundHeadings();
         altitudeBits();
-        positionBits();
+        positions();
         motionBits();
         eastAndNorth();
         roots();
@@ -164,6 +164,15 @@ public final class MessageEdgesTest {
                 CHECK.due("the lowest bit of sign " + k + " in sign " + i, last.sign(0, i), i == k ? 'A' : '?');
             }
         }
+        // Each of them between two others that have bits of 1 at both ends.
+        Bits frame = message(4, 7);
+        for (int k = 0; k < 8; k++) {
+            frame.message(9 + 6 * k, 14 + 6 * k, k % 2 == 0 ? 1 : 49);
+        }
+        SquitterDesk desk = told(frame);
+        for (int k = 0; k < 8; k++) {
+            CHECK.due("sign " + k + " among others", desk.sign(0, k), k % 2 == 0 ? 'A' : '1');
+        }
     }
 
     /** "MOVE 6 12 gives SPEED in eighths of a knot: 0 and above 124 UNKNOWN, 1: 0, 2 .. 8: 1 .. 7; from 9 on ..." */
@@ -190,6 +199,7 @@ public final class MessageEdgesTest {
             due("13 is 1: " + one[0], frame.message(13, 13, 1), HEADING, one[1]);
         }
         due("bits 12 and 21 are not of it", full(5, 1).message(14, 20, 0), HEADING, 0);
+        due("13 alone is 0", full(5, 1).message(13, 13, 0), HEADING, UNKNOWN);
     }
 
     /** "of 9 .. 18 the ALTITUDE by 9 20 as AC's bits but M" */
@@ -207,10 +217,11 @@ public final class MessageEdgesTest {
     }
 
     /** "ODD 22, Y 23 39, X 40 56" */
-    private static void positionBits() {
+    private static void positions() {
         // On the ground at 45 degrees north: what LOCAL tells of each bit alone, from a desk at the same place.
         positionBit(21, 45000000, 0);
         positionBit(22, 45762711, 0);
+        positionBits(21, 22, 45762711, 0);
         positionBit(23, 45750000, 0);
         positionBit(24, 45375000, 0);
         positionBit(38, 45000022, 0);
@@ -222,12 +233,16 @@ public final class MessageEdgesTest {
     }
 
     private static void positionBit(int bit, int latitude, int longitude) {
+        positionBits(bit, bit, latitude, longitude);
+    }
+
+    private static void positionBits(int first, int last, int latitude, int longitude) {
         for (int type : new int[] {5, 8}) {
             SquitterDesk desk = new SquitterDesk();
             desk.place(45000000, 0);
-            message(type, 0).message(bit, bit, 1).seal().hear(desk, 0);
-            CHECK.due("bit " + bit + " latitude", desk.craft(0, 15), latitude);
-            CHECK.due("bit " + bit + " longitude", desk.craft(0, 16), longitude);
+            message(type, 0).message(first, last, -1).seal().hear(desk, 0);
+            CHECK.due("bits " + first + " .. " + last + " latitude", desk.craft(0, 15), latitude);
+            CHECK.due("bits " + first + " .. " + last + " longitude", desk.craft(0, 16), longitude);
         }
     }
 
@@ -298,6 +313,7 @@ public final class MessageEdgesTest {
                 due("14 is 0: " + one[0], frame, HEADING, UNKNOWN);
                 due("14 is 1: " + one[0], frame.message(14, 14, 1), HEADING, one[1]);
             }
+            due("14 alone is 0", full(19, sub).message(14, 14, 0), HEADING, UNKNOWN);
         }
     }
 

@@ -61,8 +61,8 @@ public final class MessageTest {
     }
 
     private static void altitudesOfAllCodes() {
-        SquitterDesk desk = desk();
         for (int code = 0; code < 8192; code++) {
+            SquitterDesk desk = desk();
             Bits.of(4).set(20, 32, code).seal(ADDRESS).hear(desk, 1);
             String bits = Integer.toBinaryString(8192 + code).substring(1);
             CHECK.due("altitude of " + bits, desk.craft(0, 4), Model.altitude(bits));
@@ -145,6 +145,7 @@ public final class MessageTest {
                 CHECK.due("on the ground", desk.craft(0, 14), 1);
             }
         }
+        desk = desk();
         for (int move = 0; move < 128; move++) {
             Bits.squitter(ADDRESS, 7, 0).message(6, 12, move).seal().hear(desk, 1);
             CHECK.due("MOVE " + move, desk.craft(0, 9), Model.moved(move));

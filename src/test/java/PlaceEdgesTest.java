@@ -18,7 +18,7 @@ public final class PlaceEdgesTest {
         noPlaceOfItsOwn();
         refusedOwnPlaceStays();
         ownPlacesThatCanBe();
-        airPositionBits();
+        airPositions();
         typesThatTellPlaces();
         otherHundredOld();
         latestOfEach();
@@ -113,9 +113,10 @@ public final class PlaceEdgesTest {
     }
 
     /** "in the air; ODD 22, Y 23 39, X 40 56" */
-    private static void airPositionBits() {
+    private static void airPositions() {
         airPositionBit(21, 48000000, 0);
         airPositionBit(22, 42711864, 0);
+        airPositionBits(21, 22, 42711864, 0);
         airPositionBit(23, 45000000, 0);
         airPositionBit(24, 43500000, 0);
         airPositionBit(38, 42000091, 0);
@@ -126,15 +127,19 @@ public final class PlaceEdgesTest {
         airPositionBit(56, 48000000, 68);
     }
 
-    /** What LOCAL tells of one bit alone, the craft being at 45 degrees north. */
     private static void airPositionBit(int bit, int latitude, int longitude) {
+        airPositionBits(bit, bit, latitude, longitude);
+    }
+
+    /** What LOCAL tells of some bits alone, the craft being at 45 degrees north. */
+    private static void airPositionBits(int first, int last, int latitude, int longitude) {
         for (int type : new int[] {9, 18, 20, 22}) {
             SquitterDesk desk = new SquitterDesk();
             air(desk, false, Place.code(65536, 0), 0);
             air(desk, true, Place.code(49152, 0), 0);
             due("the place", desk, 45000000, 0, 0);
-            Bits.squitter(ADDRESS, type, 0).message(bit, bit, 1).seal().hear(desk, 1);
-            due("TYPE " + type + " bit " + bit, desk, latitude, longitude, 1);
+            Bits.squitter(ADDRESS, type, 0).message(first, last, -1).seal().hear(desk, 1);
+            due("TYPE " + type + " bits " + first + " .. " + last, desk, latitude, longitude, 1);
         }
     }
 
@@ -316,6 +321,12 @@ public final class PlaceEdgesTest {
         SquitterDesk desk = deskAtPole();
         air(desk, false, BEYOND_POLE, 11);
         due("LOCAL has none", desk, 89000011, 10000305, 10);
+        CHECK.due("GROUND is told all the same", desk.craft(0, 14), 0);
+        // A pair at 6.3 degrees north: from near the pole, LOCAL has none of either, and GLOBAL isn't asked.
+        SquitterDesk both = deskAtPole();
+        air(both, false, 859129628, 11);
+        air(both, true, 558446820, 12);
+        due("LOCAL has none, GLOBAL would", both, 89000011, 10000305, 10);
         SquitterDesk pair = new SquitterDesk();
         // One step on this side of the bound of 59 zones and one on the other.
         air(pair, false, Place.code(97658, 1000), 0);
@@ -323,7 +334,6 @@ public final class PlaceEdgesTest {
         dueNone("GLOBAL has none", pair);
         air(pair, true, Place.code(93846, 1000), 2);
         due("GLOBAL has one", pair, 10470436, 47354, 2);
-        CHECK.due("GROUND is told all the same", desk.craft(0, 14), 0);
     }
 
     /** The same on the ground: where LOCAL from the PLACE has none, the desk's own place isn't asked. */

@@ -2,7 +2,7 @@ import java.util.Random;
 
 /** All promises: runs of 512 calls, each answer against that of the model. */
 public final class RandomRunsTest {
-    private static final int RUNS = 400;
+    private static final int RUNS = 2000;
     private static final int CALLS = 512;
     private static final int[] STEPS = {0, 0, 1, 1, 2, 5, 20, 50, 99, 100, 101, 150, 299, 300, 301, 599, 600, 601};
     private static final int[] FORMATS = {0, 4, 5, 11, 16, 17, 17, 17, 17, 17, 17, 18, 20, 21};
@@ -13,6 +13,7 @@ public final class RandomRunsTest {
     private final Model model = new Model();
     private final int addresses;
     private final boolean hasty;
+    private int called = 0;
     private int time = 0;
     private int latitude;
     private int longitude;
@@ -41,22 +42,22 @@ public final class RandomRunsTest {
     }
 
     private void calls(int[] answers) {
-        for (int i = 0; i < CALLS; i++) {
+        while (called < CALLS) {
             if (random.nextInt(3) == 0) {
-                ask(i);
+                ask();
             } else {
-                answers[hear(i) + 5]++;
-            }
-        }
-        for (int i = -1; i <= 20; i++) {
-            for (int what = -1; what <= 18; what++) {
-                check.due(run + " craft(" + i + ", " + what + ")", desk.craft(i, what), model.craft(i, what));
-                check.due(run + " sign(" + i + ", " + what + ")", desk.sign(i, what), model.sign(i, what));
+                answers[hear() + 5]++;
             }
         }
     }
 
-    private int hear(int i) {
+    /** The name of the call that comes now. */
+    private String next(String call) {
+        called++;
+        return run + " call " + called + " " + call;
+    }
+
+    private int hear() {
         Bits frame = frame();
         int step = hasty ? STEPS[random.nextInt(STEPS.length)] : random.nextInt(4);
         int at = random.nextInt(40) == 0 ? time - 1 - random.nextInt(3) : time + step;
@@ -65,11 +66,12 @@ public final class RandomRunsTest {
         int c = frame.word(2);
         int d = frame.word(3);
         int due = model.hear(a, b, c, d, at);
-        check.due(run + " call " + i + " hear(" + a + ", " + b + ", " + c + ", " + d + ", " + at + ")", desk.hear(a, b, c, d, at), due);
+        check.due(next("hear(" + a + ", " + b + ", " + c + ", " + d + ", " + at + ")"), desk.hear(a, b, c, d, at), due);
         time = Math.max(time, at);
         int craft = model.find(model.field(11));
-        for (int what = 0; what < 18; what++) {
-            check.due(run + " call " + i + " craft(" + craft + ", " + what + ")", desk.craft(craft, what), model.craft(craft, what));
+        for (int more = random.nextInt(6); more > 0 && called < CALLS; more--) {
+            int what = random.nextInt(18);
+            check.due(next("craft(" + craft + ", " + what + ")"), desk.craft(craft, what), model.craft(craft, what));
         }
         return due;
     }
@@ -108,7 +110,7 @@ public final class RandomRunsTest {
                 latitude = random.nextInt(180000001) - 90000000;
             }
             frame.message(1, 5, ground ? 5 + random.nextInt(4) : 9 + random.nextInt(10));
-            frame.code(odd, desk.encode(latitude, longitude, ground, odd));
+            frame.code(odd, SpareDesk.get().encode(latitude, longitude, ground, odd));
         } else if (kind == 4) {
             frame.message(1, 5, 19).message(6, 8, random.nextInt(6));
             if (random.nextInt(4) == 0) {
@@ -119,30 +121,33 @@ public final class RandomRunsTest {
         }
     }
 
-    private void ask(int i) {
+    private void ask() {
         int x = random.nextInt(24) - 2;
         int y = random.nextInt(24) - 2;
-        String call = run + " call " + i + " ";
-        switch (random.nextInt(8)) {
-            case 0: check.due(call + "field(" + x + ")", desk.field(x), model.field(x)); break;
+        switch (random.nextInt(10)) {
+            case 0: check.due(next("field(" + x + ")"), desk.field(x), model.field(x)); break;
             case 1:
                 int from = random.nextInt(120) - 2;
                 int many = random.nextInt(37) - 2;
-                check.due(call + "bits(" + from + ", " + many + ")", desk.bits(from, many), model.bits(from, many));
+                check.due(next("bits(" + from + ", " + many + ")"), desk.bits(from, many), model.bits(from, many));
                 break;
-            case 2: check.due(call + "crafts()", desk.crafts(), model.crafts()); break;
-            case 3: check.due(call + "find", desk.find(0x400000 + x), model.find(0x400000 + x)); break;
-            case 4: check.due(call + "craft(" + x + ", " + y + ")", desk.craft(x, y), model.craft(x, y)); break;
-            case 5: check.due(call + "sign(" + x + ", " + y + ")", desk.sign(x, y), model.sign(x, y)); break;
-            case 6:
+            case 2: check.due(next("crafts()"), desk.crafts(), model.crafts()); break;
+            case 3: check.due(next("find"), desk.find(0x400000 + x), model.find(0x400000 + x)); break;
+            case 4:
+            case 5: check.due(next("craft(" + x + ", " + y + ")"), desk.craft(x, y), model.craft(x, y)); break;
+            case 6: check.due(next("sign(" + x + ", " + y + ")"), desk.sign(x, y), model.sign(x, y)); break;
+            case 7:
                 int north = random.nextInt(200000000) - 100000000;
                 int east = random.nextInt(400000000) - 200000000;
-                check.due(call + "place(" + north + ", " + east + ")", desk.place(north, east), model.place(north, east));
+                check.due(next("place(" + north + ", " + east + ")"), desk.place(north, east), model.place(north, east));
+                break;
+            case 8:
+                Bits frame = frame();
+                check.due(next("syndrome"), frame.syndrome(desk), model.syndrome(frame.word(0), frame.word(1), frame.word(2), frame.word(3)));
                 break;
             default:
-                Bits frame = frame();
-                check.due(call + "syndrome", frame.syndrome(desk), model.syndrome(frame.word(0), frame.word(1), frame.word(2), frame.word(3)));
-                check.due(call + "repair", frame.repair(desk), model.repair(frame.word(0), frame.word(1), frame.word(2), frame.word(3)));
+                Bits other = frame();
+                check.due(next("repair"), other.repair(desk), model.repair(other.word(0), other.word(1), other.word(2), other.word(3)));
                 break;
         }
     }
