@@ -1,75 +1,70 @@
-import java.io.IOException;
 import java.lang.reflect.Constructor;
 import java.lang.reflect.Field;
 import java.lang.reflect.Method;
 import java.lang.reflect.Modifier;
-import java.nio.file.Files;
-import java.nio.file.Path;
 import java.util.Arrays;
 import java.util.Set;
 import java.util.TreeSet;
 
-/** The public face, and those rules of LANGUAGE.md that can be read off the file. */
+/** "The public face": what the document has stands at it, and nothing else. */
 public final class FaceTest {
     private static final Check CHECK = new Check();
+    private static final Set<String> DUE = new TreeSet<>(Set.of(
+        "int syndrome(int, int, int, int)", "int repair(int, int, int, int)", "int seal(int, int, int, int)",
+        "boolean place(int, int)", "int hear(int, int, int, int, int)", "int field(int)", "int bits(int, int)",
+        "int crafts()", "int find(int)", "int craft(int, int)", "int sign(int, int)", "int zones(int)",
+        "long encode(int, int, boolean, boolean)", "long global(long, long, boolean)",
+        "long local(long, boolean, boolean, int, int)", "SquitterDesk()", "int NONE", "int UNKNOWN"));
 
-    public static void main(String[] args) throws IOException {
-        face();
-        rules();
+    public static void main(String[] args) {
+        Set<String> got = new TreeSet<>();
+        methods(got);
+        constructors(got);
+        constants(got);
+        CHECK.due("face is " + got, got.equals(DUE), true);
+        kind();
         CHECK.finish();
     }
 
-    private static void face() {
-        Set<String> due = new TreeSet<>(Set.of(
-            "int syndrome(int, int, int, int)", "int repair(int, int, int, int)", "int seal(int, int, int, int)",
-            "boolean place(int, int)", "int hear(int, int, int, int, int)", "int field(int)", "int bits(int, int)",
-            "int crafts()", "int find(int)", "int craft(int, int)", "int sign(int, int)", "int zones(int)",
-            "long encode(int, int, boolean, boolean)", "long global(long, long, boolean)",
-            "long local(long, boolean, boolean, int, int)", "SquitterDesk()", "int NONE", "int UNKNOWN"));
-        Set<String> got = new TreeSet<>();
+    private static void methods(Set<String> got) {
         for (Method method : SquitterDesk.class.getDeclaredMethods()) {
             if (!Modifier.isPrivate(method.getModifiers())) {
                 got.add(method.getReturnType() + " " + method.getName() + list(method.getParameterTypes()));
                 CHECK.due(method + " is public", Modifier.isPublic(method.getModifiers()), true);
+                CHECK.due(method + " is static", Modifier.isStatic(method.getModifiers()), false);
+                CHECK.due(method + " throws", method.getExceptionTypes().length, 0);
             }
         }
+    }
+
+    private static void constructors(Set<String> got) {
         for (Constructor<?> constructor : SquitterDesk.class.getDeclaredConstructors()) {
             got.add(constructor.getName() + list(constructor.getParameterTypes()));
+            CHECK.due(constructor + " is public", Modifier.isPublic(constructor.getModifiers()), true);
         }
+    }
+
+    private static void constants(Set<String> got) {
         for (Field field : SquitterDesk.class.getDeclaredFields()) {
-            if (!Modifier.isPrivate(field.getModifiers())) {
+            int modifiers = field.getModifiers();
+            if (!Modifier.isPrivate(modifiers)) {
                 got.add(field.getType() + " " + field.getName());
+                boolean constant = Modifier.isPublic(modifiers) && Modifier.isStatic(modifiers) && Modifier.isFinal(modifiers);
+                CHECK.due(field + " is a public constant", constant, true);
             }
         }
-        CHECK.due("face is " + got, got.equals(due), true);
-        CHECK.due("final", Modifier.isFinal(SquitterDesk.class.getModifiers()), true);
-        for (Class<?> inside : SquitterDesk.class.getDeclaredClasses()) {
-            CHECK.due(inside + " is static", Modifier.isStatic(inside.getModifiers()), true);
-            CHECK.due(inside + " is private", Modifier.isPrivate(inside.getModifiers()), true);
-            for (Field field : inside.getDeclaredFields()) {
-                boolean changing = Modifier.isStatic(field.getModifiers()) && !Modifier.isFinal(field.getModifiers());
-                CHECK.due(field + " is static state", changing, false);
-            }
-        }
+    }
+
+    private static void kind() {
+        int modifiers = SquitterDesk.class.getModifiers();
+        CHECK.due("public", Modifier.isPublic(modifiers), true);
+        CHECK.due("final", Modifier.isFinal(modifiers), true);
+        CHECK.due("no class above it", SquitterDesk.class.getSuperclass() == Object.class, true);
+        CHECK.due("no interface", SquitterDesk.class.getInterfaces().length, 0);
+        CHECK.due("no package", SquitterDesk.class.getPackageName().isEmpty(), true);
     }
 
     private static String list(Class<?>[] types) {
         return Arrays.toString(types).replace('[', '(').replace(']', ')');
-    }
-
-    private static void rules() throws IOException {
-        String source = Files.readString(Path.of("src/main/java/SquitterDesk.java"));
-        String code = source.replaceAll("(?s)/\\*.*?\\*/", " ").replaceAll("//.*", " ");
-        for (String word : new String[] {"throw", "try", "catch", "synchronized", "assert", "throws", "package", "new Random"}) {
-            CHECK.due("'" + word + "' is not used", code.matches("(?s).*\\b" + word + "\\b.*"), false);
-        }
-        for (String sign : new String[] {"->", "::", "Exact("}) {
-            CHECK.due("'" + sign + "' is not used", code.contains(sign), false);
-        }
-        for (String line : code.split("\n")) {
-            if (line.startsWith("import ")) {
-                CHECK.due(line, line.equals("import java.util.Arrays;"), true);
-            }
-        }
     }
 }
